@@ -713,7 +713,6 @@ public final class BoxFlickers {
         void open() {
             begun = 0;
             ended = 0;
-            flickers = 0;
             turns = 0;
             for (int axis = 0; axis < AXES; axis++) {
                 swaps[axis] = 0;

@@ -9,6 +9,7 @@ public final class TextsTest {
         blank();
         faultInNumbers();
         faultInMarks();
+        faultAgain();
         boxes();
         boxesRefused();
         boxesTakeLeastNumbers();
@@ -109,6 +110,23 @@ public final class TextsTest {
         fault(FOUR + ";", FOUR.length());
         fault(FOUR + "5", FOUR.length() + 1);
         fault(FOUR + "5,", FOUR.length() + 1);
+    }
+
+    /** Each reading begins anew, whatever the one ahead of it left. */
+    private static void faultAgain() {
+        BoxFlickers x = new BoxFlickers();
+        String text = "-10:999,0:1,0:-1;50:6,";
+        for (int i = 0; i < text.length(); i++) {
+            x.letter(text.charAt(i));
+            Due.is("fault() behind letter " + i, x.fault(), i + 1);
+            Due.is("fault() once more", x.fault(), i + 1);
+        }
+        Due.is("boxes()", x.boxes(), BoxFlickers.STATE);
+        x.blank();
+        Due.is("fault() of an empty page", x.fault(), 0);
+        Due.write(x, CUBE);
+        Due.is("boxes() behind other readings", x.boxes(), 1);
+        Due.are("box 0", Due.box(x, 0), 0, 1, 0, 1, 0, 1, 0, 0, 0);
     }
 
     private static void boxes() {

@@ -181,6 +181,14 @@ public final class ToldTest {
         lets("touching near the border", z, 0, 0, 998, 993);
         z.touch(false);
         lets("all the way", z, 0, 0, 999, 994);
+        BoxFlickers w = Due.with("990:995,0:1,0:1;980:995,0:1,0:1", "-995:-990,0:1,0:1;-995:-980,0:1,0:1");
+        lets("out of it 1 beyond the border", w, 0, 0, 15, BoxFlickers.NONE);
+        lets("the great one, 1 beyond", w, 1, 0, 5, BoxFlickers.NONE);
+        lets("the other way, 1 beyond", w, 2, 0, BoxFlickers.NONE, 15);
+        w.lay(1, 0, 980, 994);
+        w.lay(3, 0, -994, -984);
+        lets("out of it at the border", w, 0, 0, 15, 4);
+        lets("out of it at the other border", w, 2, 0, 4, 11);
     }
 
     private static void letRefused() {
@@ -205,6 +213,8 @@ public final class ToldTest {
         x.touch(false);
         x.remove(4);
         Due.are("heap() of single boxes", Due.heaps(x), 3, 1, 1, 1);
+        x.remove(2 | 8);
+        Due.are("heap() of box 0 alone", Due.heaps(x), 1, 1, 1, 1);
         Due.is("heap(-1)", x.heap(-1), BoxFlickers.OUTSIDE);
         Due.is("heap(4)", x.heap(4), BoxFlickers.OUTSIDE);
         BoxFlickers y = Due.with("8:10,0:1,0:1;0:2,0:1,0:1;6:9,0:1,0:1;4:7,0:1,0:1", "1:3,0:1,0:1;2:5,0:1,0:1");
