@@ -525,26 +525,26 @@ public final class BoxFlickers {
     }
 
     private int deepest() {
-        return deepestFrom(MOST_BOXES - 1, 0, there, 0);
+        return deepestFrom(overlaps, MOST_BOXES - 1, 0, there, 0);
     }
 
     /**
      * The best set of chosen BOXES and some of the open ones, all of them from this one down.
      * Sets without the greater numbers are tried first, so that the first of a size has the least sum.
      */
-    private int deepestFrom(int box, int chosen, int open, int best) {
+    private static int deepestFrom(int[] overlaps, int box, int chosen, int open, int best) {
         if (Integer.bitCount(chosen | open) <= Integer.bitCount(best)) {
             return best;
         }
-        if (box < 0 || box >= MOST_BOXES) {
+        if (box < 0 || box >= overlaps.length) {
             return chosen;
         }
         int rest = open & ~bit(box);
-        int without = deepestFrom(box - 1, chosen, rest, best);
+        int without = deepestFrom(overlaps, box - 1, chosen, rest, best);
         if (!holds(open, box)) {
             return without;
         }
-        return deepestFrom(box - 1, chosen | bit(box), rest & overlaps[box], without);
+        return deepestFrom(overlaps, box - 1, chosen | bit(box), rest & overlaps[box], without);
     }
 
     /** One AXIS: where each BOX begins and stops on it, its ENDS in order, and which BOXES MEET. */

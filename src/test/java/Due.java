@@ -1,7 +1,11 @@
+import java.util.function.IntSupplier;
+
 /** Compares answers with those that are due, and helps to write THE PAGE. */
 final class Due {
     private static int asked = 0;
     private static int wrong = 0;
+    private static int sentences = 0;
+    private static String said = "";
 
     private Due() {
     }
@@ -10,8 +14,21 @@ final class Due {
         asked++;
         if (got != want) {
             wrong++;
-            System.out.println(call + " answered " + got + ", due is " + want);
+            System.out.println(said + call + " answered " + got + ", due is " + want);
         }
+    }
+
+    /** What follows, up to the next call, tests these words of the document: a wrong answer is told with them. */
+    static void sentence(String words) {
+        sentences++;
+        said = "[" + words + "] ";
+    }
+
+    /** A refused call changes nothing: what digest() sums up stays as it was. */
+    static void refuses(BoxFlickers x, String call, IntSupplier made, int want) {
+        long before = x.digest();
+        is(call, made.getAsInt(), want);
+        is(call + " changes nothing: digest()", x.digest(), before);
     }
 
     static void that(String claim, boolean holds) {
@@ -30,6 +47,13 @@ final class Due {
         for (int i = 0; i < text.length(); i++) {
             x.letter(text.charAt(i));
         }
+    }
+
+    static BoxFlickers page(String text) {
+        BoxFlickers x = new BoxFlickers();
+        write(x, text);
+        is("count(0) of " + text, x.count(0), text.length());
+        return x;
     }
 
     static BoxFlickers with(String... batches) {
@@ -101,7 +125,8 @@ final class Due {
     }
 
     static void close(String name) {
-        System.out.println(name + ": " + asked + " answers, " + wrong + " not as due");
+        String of = sentences > 0 ? " to " + sentences + " sentences" : "";
+        System.out.println(name + ": " + asked + " answers" + of + ", " + wrong + " not as due");
         if (wrong != 0 || asked == 0) {
             System.exit(1);
         }
